@@ -158,6 +158,7 @@ public final class HostPromisesTest {
     due.is("no such sheet", x.wouldBe(-1, 0, 0), BAD);
     due.is("21", x.wouldBe(0, 0, 21), BAD);
     due.is("-1", x.wouldBe(0, 0, -1), BAD);
+    due.is("missing, none asked", x.wouldBe(3, 0, 0), NOTHING);
     x.sheet(1, 2, 20);
     due.is("another sort", x.wouldBe(1, 0, 0), OTHER);
     acts(x, 0, 1, 2, 3, 0);

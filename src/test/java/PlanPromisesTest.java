@@ -30,6 +30,10 @@ public final class PlanPromisesTest {
   }
 
   private static void best() {
+    due.promise(25, "ith");
+    due.is("asked first", twoDishes().ith(2, 1), 2);
+    due.promise(26, "ways");
+    due.is("asked first", twoDishes().ways(3), 9);
     BridgeService x = twoDishes();
     // 18 by 3 years: 1 2 *, 1 0 2, 1 1 2, 0 1 2, 2 1 *
     int[] worth = {0, 9, 18, 18, 18};
@@ -169,6 +173,9 @@ public final class PlanPromisesTest {
     due.promise(30, "play");
     due.is("over", x.play(4), NONE);
     due.is("BAD ahead of NONE", x.play(5), BAD);
+    BridgeService z = twoDishes();
+    z.family(1, 4);
+    due.is("the last piece", z.play(1), 2);
     // the other one lets the seated dish leave, or tells who would not sit, so that she goes less far
     BridgeService y = quiet();
     y.home(1, 0, 9);
@@ -210,6 +217,8 @@ public final class PlanPromisesTest {
     due.promise(38, "prove");
     due.is("nothing went by", x.state(0), 0);
     due.is("none sits", x.state(4), 0);
+    due.is("four", x.prove(4), 4);
+    due.is("the last of four", x.row(3, 2), 3);
     due.is("fewer", x.prove(1), 1);
     due.promise(39, "row");
     due.is("the only one", x.row(0, 1), 9);

@@ -101,6 +101,14 @@ public final class RulesPromisesTest {
     fault("dish if 1<00000 sit;", 10);
     fault("dish if 1 2<3 sit;", 10);
     fault("dish if 1<2 sit;dish if 1<2 if", 28);
+    fault("dish if 1(2 sit;", 9);
+    fault("dish if 1)2 sit;", 9);
+    fault("dish if (1<2; sit;", 12);
+    fault("dish sit)", 8);
+    fault("dish if 1;2 sit;", 9);
+    fault("dish sitz;", 5);
+    fault("dish sit;z", 9);
+    fault("dish sita;", 5);
     fault("dish\tsit;", 4);
     fault("dish sit;" + (char) 200, 9);
     fault("dish sit;" + (char) 0, 9);
@@ -135,6 +143,13 @@ public final class RulesPromisesTest {
     due.is("rules stay", x.many(1), 2);
     due.is("will stays", x.plateOf(0, 8), LEAVE);
     due.is("the tape is used up", x.many(5), 0);
+    // nothing of what stood ahead of a FAULT counts later
+    due.is("a fault behind (", Say.rules(x, "dish if (((1=2 or"), -117);
+    due.is("three ( again", Say.rules(x, "dish if (((1=2))) leave;"), 1);
+    due.is("none holds", x.plateOf(0, 8), SIT);
+    due.is("a fault behind or", Say.rules(x, "dish sit; dish if 1=2 or"), -124);
+    due.is("a right one", Say.rules(x, "dish if 1=2 leave;"), 1);
+    due.is("none holds", x.plateOf(0, 8), SIT);
     due.is("now a right one", Say.rules(x, "dish stand;"), 1);
     due.is("will", x.plateOf(0, 8), STAND);
   }
@@ -218,11 +233,25 @@ public final class RulesPromisesTest {
       for (int v = 0; v < 10; v++) {
         Say.rules(x, "dish if " + names[i] + "=" + v + " leave; plate stand;");
         due.is(names[i] + " is " + v, x.plateOf(2, 8), values[i] == v ? LEAVE : STAND);
+        Say.rules(x, "dish if " + v + "<" + names[i] + " leave; plate stand;");
+        due.is(v + " is less than " + names[i], x.plateOf(2, 8), v < values[i] ? LEAVE : STAND);
       }
     }
   }
 
   private static void whatIsDone() {
+    due.promise(14, "rules, NUMBERS");
+    BridgeService n = new BridgeService();
+    n.plate(1, 0, 0, 0);
+    n.home(0, 0, 9);
+    for (int v = 0; v < 30; v++) {
+      Say.rules(n, "dish if grudge = " + v + " leave; dish if grudge > " + v + " stand;");
+      due.is("grudge by " + v, n.plateOf(0, 8), v == 11 ? LEAVE : v < 11 ? STAND : SIT);
+    }
+    Say.rules(n, "dish if grudge = 0011 leave;");
+    due.is("four digits", n.plateOf(0, 8), LEAVE);
+    Say.rules(n, "dish if 1110 < grudge leave;");
+    due.is("four digits", n.plateOf(0, 8), SIT);
     due.promise(14, "rules, what is done");
     // MOOD is what it is behind the news of the year that goes by: 5 and 1
     BridgeService x = new BridgeService();

@@ -149,6 +149,26 @@ public final class StrangerPromisesTest {
     due.is("either, the least", x.liar(), 0);
     x.report(2, 1, 3, 3);
     due.is("but for the second three fit", x.liar(), 1);
+    // but for the latest report few fit: one kind, one MOOD, the least widths
+    BridgeService y = quiet();
+    y.report(1, 0, 0, 0);
+    y.report(3, 0, 1, 2);
+    y.report(0, 0, 1, 1);
+    due.is("a cracked one", y.liar(), 2);
+    for (int mood : new int[] {0, 9}) {
+      BridgeService z = quiet();
+      z.report(0, 1, mood, mood);
+      z.report(1, 1, mood, mood);
+      z.report(2, 1, 5, 5);
+      due.is("by MOOD " + mood, z.liar(), 2);
+    }
+    // saucers of width 0 and 1 alone: 1 place in the year 0, and cracked ones have none
+    BridgeService w = quiet();
+    w.report(15, 0, 1, 1);
+    w.report(1, 0, 1, 1);
+    w.report(0, 1, 1, 9);
+    w.report(0, 0, 1, 1);
+    due.is("by width 0 or 1", w.liar(), 3);
   }
 
   private static void seedAndLot() {

@@ -134,7 +134,8 @@ public final class TablePromisesTest {
     x.plate(2, 3, 4, 5);
     due.is("first", x.change(0, 1, 39), 3);
     due.is("first again", x.change(0, 1, 0), 39);
-    due.is("width", x.change(0, 2, 9), 4);
+    due.is("width", x.change(0, 2, 0), 4);
+    due.is("width again", x.change(0, 2, 9), 0);
     due.is("home", x.change(0, 3, 0), 5);
     due.is("seated", x.change(0, 4, 1), 0);
     due.is("seated still", x.change(0, 4, 1), 1);
@@ -252,6 +253,7 @@ public final class TablePromisesTest {
     x.report(0, 0, 0, 0);
     x.year();
     x.year();
+    due.is("mood ahead of it", x.family(0, 8), 5);
     due.is("behind two years", x.anew(), 2);
     int[] states = {0, 9, 0, 0, 0, 4, 5, 0};
     for (int what = 0; what < states.length; what++) due.is("state " + what, x.state(what), states[what]);

@@ -146,8 +146,13 @@ public final class YearPromisesTest {
     due.is("it is now", x.when(0), NONE);
     due.is("still in the year 1", x.when(2), 1);
     states(x, 1, 5, 1, 5, 2);
+    x.ends(2);
+    due.is("in the last year", x.when(2), 1);
     x.ends(1);
     due.is("over", x.when(2), NONE);
+    BridgeService y = quiet();
+    y.plate(1, 9, 0, 0);
+    due.is("she goes nowhere", y.when(0), 0);
   }
 
   private static void widthFor() {
@@ -180,6 +185,9 @@ public final class YearPromisesTest {
     due.is("no piece", x.pieceFor(-1), BAD);
     x.family(1, 39);
     due.is("one place from 39", x.pieceFor(1), 36);
+    x.remake(1, 4);
+    x.change(1, 2, 0);
+    due.is("one place at 39", x.pieceFor(1), 39);
     x.family(1, 40);
     due.is("all the same", x.pieceFor(1), 0);
     states(x, 0, 0, 0, 5, 40);
@@ -197,11 +205,17 @@ public final class YearPromisesTest {
     due.is("12", x.over(12), 2);
     due.is("13", x.over(13), NONE);
     due.is("40", x.over(40), NONE);
+    BridgeService none = quiet();
+    due.is("without pieces", none.over(0), 0);
+    due.is("without pieces", none.over(1), NONE);
     due.is("41", x.over(41), BAD);
     due.is("-1", x.over(-1), BAD);
     x.year();
     due.is("the first year yet", x.over(2), 1);
     states(x, 1, 9, 1, 5, 4);
+    x.ends(2);
+    due.is("in the last year", x.over(8), 1);
+    due.is("behind the last year", x.over(9), NONE);
     x.family(1, 40);
     due.is("across", x.over(40), 1);
     x.ends(1);
@@ -232,6 +246,8 @@ public final class YearPromisesTest {
     // the cracked one spans 4 and 5 in the year 1, the boat 8
     due.is("in the year 1", x.gap(0), 9);
     due.is("in the year 1", x.gap(1), 32);
+    x.family(1, 39);
+    due.is("at 39", x.gap(0), 39);
     x.family(1, 40);
     due.is("across", x.gap(0), NONE);
     x.plate(1, 36, 9, 0);
@@ -306,6 +322,10 @@ public final class YearPromisesTest {
     due.is("without 0", x.fetch(0, 0), 20);
     due.is("without 0", x.fetch(0, 1), 2);
     x.change(1, 4, 1);
+    x.change(2, 1, 0);
+    due.is("one at 0", x.fetch(9, 0), 9);
+    due.is("one at 0", x.fetch(0, 0), 0);
+    due.is("one at 0", x.fetch(0, 1), 2);
     x.change(2, 4, 1);
     due.is("all sit", x.fetch(9, 0), 0);
     due.is("all sit", x.fetch(9, 1), NONE);
