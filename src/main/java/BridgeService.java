@@ -438,6 +438,7 @@ public final class BridgeService {
     return NONE;
   }
 
+  // the way up has an end: the KIND above has always the lesser number
   private static boolean isUnder(int kind, int above) {
     for (int k = kind; k >= 0 && k < ABOVE.length; k = ABOVE[k]) {
       if (k == above) return true;
@@ -1110,7 +1111,10 @@ public final class BridgeService {
     }
 
     private void endOne() {
-      while (waits > 0 && waiting[waits - 1] == NOT) appendLatest();
+      while (waits > 0 && waiting[waits - 1] == NOT) {
+        draft.append(Laws.NOT);
+        waits--;
+      }
       due = JOINT_DUE;
     }
 
@@ -1158,14 +1162,10 @@ public final class BridgeService {
 
     // "and" joins more closely than "or"
     private void appendJoints(int joint) {
-      while (waits > 0 && (waiting[waits - 1] == AND || waiting[waits - 1] == joint)) appendLatest();
-    }
-
-    private void appendLatest() {
-      if (waits <= 0) return;
-      waits--;
-      int word = waiting[waits];
-      draft.append(word == NOT ? Laws.NOT : word == AND ? Laws.AND : Laws.OR);
+      while (waits > 0 && (waiting[waits - 1] == AND || waiting[waits - 1] == joint)) {
+        draft.append(waiting[waits - 1] == AND ? Laws.AND : Laws.OR);
+        waits--;
+      }
     }
   }
 
