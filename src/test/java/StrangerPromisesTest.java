@@ -212,14 +212,9 @@ public final class StrangerPromisesTest {
     due.is("year", z.state(0), 1);
   }
 
-  private static void times() {
-    due.promise(37, "times");
+  // three pieces, YEAR 1 of 4, z 321
+  private static BridgeService threePieces() {
     BridgeService x = quiet();
-    due.is("none is worth anything", x.times(40, 0), 40);
-    due.is("none is worth anything", x.times(40, 1), 0);
-    int[][] wrong = {{0, 0}, {41, 0}, {-1, 0}, {1, -1}, {1, 1000}};
-    for (int[] w : wrong) due.is("wrong", x.times(w[0], w[1]), BAD);
-    due.is("least", x.times(1, 999), 0);
     x.plate(1, 0, 4, 0);
     x.plate(2, 5, 3, 0);
     x.plate(3, 9, 8, 1);
@@ -227,16 +222,34 @@ public final class StrangerPromisesTest {
     x.ends(4);
     x.year();
     x.seed(321);
+    return x;
+  }
+
+  // what 40 times all years yet by lot are worth, lot by lot
+  private static int[] worthByLots() {
+    BridgeService x = threePieces();
     x.keep();
     int[] worth = new int[40];
     int z = 321;
     for (int i = 0; i < 40; i++) {
       x.again();
       x.seed(z);
-      while (x.state(3) == 0) worth[i] += x.lot();
+      for (int y = 1; y < 4; y++) worth[i] += x.lot();
       z = x.seed(0);
     }
-    x.again();
+    return worth;
+  }
+
+  private static void times() {
+    due.promise(37, "times");
+    BridgeService none = quiet();
+    due.is("none is worth anything", none.times(40, 0), 40);
+    due.is("none is worth anything", none.times(40, 1), 0);
+    int[][] wrong = {{0, 0}, {41, 0}, {-1, 0}, {1, -1}, {1, 1000}};
+    for (int[] w : wrong) due.is("wrong", none.times(w[0], w[1]), BAD);
+    due.is("least", none.times(1, 999), 0);
+    int[] worth = worthByLots();
+    BridgeService x = threePieces();
     for (int v = 0; v < 40; v++) {
       for (int n : new int[] {1, 2, 17, 40}) {
         int count = 0;

@@ -7,6 +7,8 @@ public final class TableEdgesTest {
 
   public static void main(String[] args) {
     lastCall();
+    quotients();
+    setsByBits();
     endAtFirst();
     eachEnd();
     yearAndEnd();
@@ -58,6 +60,52 @@ public final class TableEdgesTest {
     for (; calls < 510; calls++) x.again();
     due.is("the 511th call", x.many(0), 6);
     due.is("the 512th call", x.state(0), 12);
+  }
+
+  private static void quotients() {
+    due.sentence("Quotients are cut towards 0.");
+    BridgeService x = quiet();
+    // a dish twice 1 and half of WIDTH; a saucer's GRUDGE half of ANGER; MOOD a third of GRUDGE less
+    int[][] dishes = {{0, 2}, {1, 2}, {2, 4}, {3, 4}, {8, 10}, {9, 10}};
+    x.plate(1, 20, 0, 0);
+    for (int[] d : dishes) {
+      x.change(0, 2, d[0]);
+      due.is("width " + d[0], x.plateOf(0, 5), d[1]);
+    }
+    x.plate(4, 20, 0, 1);
+    int[][] saucers = {{0, 0}, {1, 0}, {2, 1}, {3, 1}, {8, 4}, {9, 4}};
+    for (int[] s : saucers) {
+      x.home(1, 0, s[0]);
+      due.is("anger " + s[0], x.plateOf(1, 6), s[1]);
+    }
+    x.change(1, 4, 1);
+    x.home(0, 1, 9);
+    int[][] moods = {{0, 9}, {1, 8}, {3, 8}, {4, 7}, {6, 7}, {7, 6}, {9, 6}};
+    for (int[] m : moods) {
+      x.anew();
+      x.home(0, 0, m[0]);
+      x.family(0, 9);
+      x.year();
+      due.is("grudge " + (m[0] + 2), x.state(6), m[1]);
+    }
+  }
+
+  private static void setsByBits() {
+    due.sentence("Sets are told by bits.");
+    for (int set = 0; set < 64; set++) {
+      BridgeService x = quiet();
+      for (int k = 0; k < 6; k++) {
+        x.plate(1, 30, 0, 0);
+        x.change(k, 4, set >> k & 1);
+      }
+      due.is("seated", x.state(4), set);
+      due.is("how many", x.many(2), Integer.bitCount(set));
+      for (int k = 0; k < 6; k++) due.is("branch of " + k, x.branches(k), (set >> k & 1) == 1 ? 0 : 63 - set);
+      due.is("supper", x.supper(0, set), 0);
+      due.is("bars", x.bars(0, 63), set == 63 ? NONE : Integer.numberOfTrailingZeros(63 - set));
+      x.prove(1);
+      due.is("row", x.row(0, 2), set | Integer.lowestOneBit(63 - set));
+    }
   }
 
   private static void endAtFirst() {
