@@ -438,10 +438,12 @@ public final class BridgeService {
     return NONE;
   }
 
-  // the way up has an end: the KIND above has always the lesser number
+  // a KIND counts as under itself; no way up is longer than there are KINDS
   private static boolean isUnder(int kind, int above) {
-    for (int k = kind; k >= 0 && k < ABOVE.length; k = ABOVE[k]) {
+    int k = kind;
+    for (int up = 0; up < ABOVE.length && k >= 0 && k < ABOVE.length; up++) {
       if (k == above) return true;
+      k = ABOVE[k];
     }
     return false;
   }

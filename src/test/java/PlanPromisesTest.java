@@ -149,6 +149,19 @@ public final class PlanPromisesTest {
     x.year();
     due.is("over", x.bars(4, 3), NONE);
     due.is("over", x.bars(4, 7), 2);
+    barsByEvenPlans();
+  }
+
+  // who stands in the year 1 is seated behind two of the four plans of 2: (1, 0) and (1, 1)
+  private static void barsByEvenPlans() {
+    BridgeService x = new BridgeService();
+    x.plate(1, 0, 0, 0);
+    Say.rules(x, "dish if year = 1 stand;");
+    due.is("behind two of four plans", x.bars(2, 1), NONE);
+    due.is("behind one of two plans", x.bars(1, 1), NONE);
+    Say.rules(x, "dish if year = 0 stand; dish if year = 1 leave;");
+    due.is("behind none of four plans", x.bars(2, 1), 0);
+    due.is("behind some of eight plans", x.bars(3, 1), NONE);
   }
 
   private static void game() {

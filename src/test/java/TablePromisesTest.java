@@ -10,6 +10,7 @@ public final class TablePromisesTest {
     spansByYears();
     grudges();
     change();
+    changeOfEach();
     remake();
     news();
     home();
@@ -147,6 +148,27 @@ public final class TablePromisesTest {
     for (int what = 0; what < 5; what++) due.is("still " + what, x.plateOf(0, what), now[what]);
     due.is("gets up", x.change(0, 4, 0), 1);
     due.is("none sits", x.state(4), 0);
+  }
+
+  // each of six pieces answers what was its own, and the others stay
+  private static void changeOfEach() {
+    due.promise(4, "change of each");
+    BridgeService x = new BridgeService();
+    int[][] now = {{0, 1, 2, 3, 0}, {0, 6, 3, 4, 0}, {0, 11, 4, 5, 0}, {0, 16, 5, 0, 0}, {0, 21, 6, 1, 0}, {0, 26, 7, 2, 0}};
+    for (int[] piece : now) x.plate(1, piece[1], piece[2], piece[3]);
+    int[] to = {0, 39, 9, 5, 1};
+    for (int k = 0; k < 6; k++) {
+      for (int what = 1; what <= 4; what++) {
+        due.is("what " + what + " of " + k, x.change(k, what, to[what]), now[k][what]);
+        due.is("what " + what + " of " + k + ", again", x.change(k, what, to[what]), to[what]);
+        now[k][what] = to[what];
+        for (int other = 0; other < 6; other++) due.is("what " + what + " of " + other, x.plateOf(other, what), now[other][what]);
+      }
+    }
+    for (int k = 0; k < 6; k++) {
+      due.is("sat, " + k, x.change(k, 4, 0), 1);
+      due.is("stood, " + k, x.change(k, 4, 0), 0);
+    }
   }
 
   private static void remake() {

@@ -287,6 +287,24 @@ public final class YearPromisesTest {
     for (int k = 0; k < 6; k++) y.plate(1, firsts[k], 0, k);
     due.is("one chain", y.branches(0), 63);
     due.is("one chain", y.branches(-1), 1);
+    branchesByTwoWays();
+  }
+
+  // a ring: 0-1 and 2-3 of one home, 0-2 and 1-3 2 apart, so that 3 hangs by two at once
+  private static void branchesByTwoWays() {
+    BridgeService x = quiet();
+    x.plate(1, 0, 0, 0);
+    x.plate(1, 10, 0, 0);
+    x.plate(1, 2, 0, 1);
+    x.plate(1, 12, 0, 1);
+    for (int k = 0; k < 4; k++) due.is("ring, branch of " + k, x.branches(k), 15);
+    due.is("ring", x.branches(-1), 1);
+    x.change(0, 4, 1);
+    due.is("the ring is open", x.branches(1), 14);
+    x.change(3, 4, 1);
+    due.is("the ring is apart", x.branches(1), 2);
+    due.is("the ring is apart", x.branches(2), 4);
+    due.is("the ring is apart", x.branches(-1), 2);
   }
 
   private static void fetch() {
