@@ -124,6 +124,29 @@ public final class PlanPromisesTest {
     due.is("in time", y.supper(3, 1), 1);
     due.is("too early", y.supper(2, 1), NONE);
     due.is("both", y.supper(4, 3), NONE);
+    supperThenNone();
+    supperByFewerBehindMore();
+  }
+
+  // the dish sits in the year 0 alone: 0 must come behind
+  private static void supperThenNone() {
+    BridgeService x = new BridgeService();
+    x.plate(1, 0, 8, 0);
+    Say.rules(x, "dish if year > 0 stand;");
+    for (int n = 1; n <= 4; n++) due.is("told at once, then none, by " + n, x.supper(n, 1), 1);
+  }
+
+  // of plans of 2 (1, 2) comes ahead of (2, 0): dish 1 sits in the year 1 only if dish 0 has made MOOD less
+  private static void supperByFewerBehindMore() {
+    BridgeService x = new BridgeService();
+    for (int y = 0; y < 4; y++) x.news(y, 3);
+    x.home(0, 0, 4);
+    x.plate(1, 0, 2, 0);
+    x.plate(1, 0, 2, 1);
+    Say.rules(x, "dish if number = 1 and year = 1 and mood > 4 stand;");
+    due.is("the second one", x.supper(2, 2), 1);
+    due.is("both", x.supper(2, 3), 2);
+    due.is("the first one", x.supper(2, 1), 1);
   }
 
   private static void bars() {

@@ -8,9 +8,12 @@ public final class StrangerPromisesTest {
     forget();
     lost();
     lostByYears();
+    lostBeyond();
     liar();
+    liarByKinds();
     seedAndLot();
     times();
+    timesOf16Years();
     due.end();
   }
 
@@ -131,6 +134,43 @@ public final class StrangerPromisesTest {
     is(y, 50, 1, 0, 1);
   }
 
+  // by MOOD 9 at first, 6 then, SHE goes 7 PLACES in the year 0: 10 would need MOOD 12 at first
+  private static void lostBeyond() {
+    due.promise(33, "lost, none fits");
+    BridgeService x = quiet();
+    x.news(0, 13);
+    x.report(1, 0, 10, 10);
+    is(x, 0, NONE, NONE, NONE);
+    due.promise(34, "liar, none fits");
+    due.is("the only report", x.liar(), 0);
+    x.forget();
+    x.report(1, 0, 7, 7);
+    due.promise(33, "lost, by the greatest MOOD");
+    // dishes of 8 PLACES or 10, tureens and boats of 7; the least dish is of width 6
+    is(x, 8, 1, 6, 9);
+    x.forget();
+    x.report(15, 0, 11, 40);
+    due.promise(33, "lost, beyond the widest");
+    is(x, 0, NONE, NONE, NONE);
+  }
+
+  // none but dishes of width 8 and 9 come to 10; none comes to 11
+  private static void liarByKinds() {
+    due.promise(34, "liar, by a dish alone");
+    BridgeService x = quiet();
+    x.report(15, 0, 10, 10);
+    x.report(15, 0, 11, 40);
+    due.is("the second", x.liar(), 1);
+    x.forget();
+    x.report(15, 0, 11, 40);
+    x.report(15, 0, 10, 10);
+    due.is("the first", x.liar(), 0);
+    x.forget();
+    x.report(15, 0, 40, 40);
+    x.report(15, 0, 11, 40);
+    due.is("two that can't be", x.liar(), NONE);
+  }
+
   private static void liar() {
     due.promise(34, "liar");
     BridgeService x = quiet();
@@ -238,6 +278,24 @@ public final class StrangerPromisesTest {
       z = x.seed(0);
     }
     return worth;
+  }
+
+  // SHE goes one PLACE in each year, by MOOD 0, whoever is told
+  private static void timesOf16Years() {
+    due.promise(37, "times, 16 years");
+    BridgeService x = quiet();
+    x.family(0, 0);
+    x.plate(1, 0, 8, 0);
+    x.plate(1, 10, 8, 0);
+    x.change(0, 4, 1);
+    x.change(1, 4, 1);
+    Say.rules(x, "plate stand;");
+    x.ends(16);
+    due.is("worth 32", x.times(40, 32), 40);
+    due.is("worth no more", x.times(40, 33), 0);
+    x.ends(15);
+    due.is("worth 30", x.times(40, 30), 40);
+    due.is("worth no more", x.times(40, 31), 0);
   }
 
   private static void times() {

@@ -20,6 +20,7 @@ public final class TablePromisesTest {
     state();
     many();
     kept();
+    keptReports();
     keptApart();
     due.end();
   }
@@ -402,6 +403,46 @@ public final class TablePromisesTest {
     x.report(1, 0, 7, 7);
     x.report(1, 1, 7, 7);
     Say.rules(x, "plate leave; plate if year < 9 and mood = 1 sit; saucer sit;");
+  }
+
+  // MOOD is 3 worse in the year 3; the counts are worked out from the terms
+  private static BridgeService worseInYear3() {
+    BridgeService x = new BridgeService();
+    for (int y = 0; y < 16; y++) x.news(y, y == 3 ? 13 : 3);
+    return x;
+  }
+
+  // each REPORT comes again with its YEARS, with what is asked, with LEAST and MOST
+  private static void keptReports() {
+    // MOOD 0 to 4 behind 3 years; AT 1 behind 4 years: saucers of 1 place; 2 or more behind one year
+    int[][] reports = {{3, 1, 0, 4}, {4, 0, 1, 1}, {1, 0, 2, 40}};
+    int[] fit = {250, 40, 342};
+    BridgeService all = worseInYear3();
+    for (int i = 0; i < reports.length; i++) {
+      int[] r = reports[i];
+      BridgeService x = worseInYear3();
+      due.promise(52, "keep, reports");
+      due.is("reported", x.report(r[0], r[1], r[2], r[3]), 0);
+      all.report(r[0], r[1], r[2], r[3]);
+      due.is("fit by report " + i, x.lost(0), fit[i]);
+      x.keep();
+      x.forget();
+      x.report(2, 1, 7, 8);
+      x.report(0, 0, 3, 9);
+      due.is("none fits meanwhile", x.lost(0), 0);
+      due.promise(53, "again, reports");
+      x.again();
+      due.is("fit again by report " + i, x.lost(0), fit[i]);
+      due.is("one again", x.many(3), 1);
+    }
+    // but for AT 1 the others fit together; but for the first or the last it stands against one of them
+    due.is("the liar", all.liar(), 1);
+    all.keep();
+    all.forget();
+    all.report(0, 0, 3, 9);
+    due.is("the liar meanwhile", all.liar(), 0);
+    all.again();
+    due.is("the liar again", all.liar(), 1);
   }
 
   // THE TAPE, ROWS, SHEETS, SHELVES and THE TRACE are not kept

@@ -10,6 +10,7 @@ public final class YearPromisesTest {
     when();
     widthFor();
     pieceFor();
+    theSixteenthYear();
     over();
     gap();
     branches();
@@ -191,6 +192,33 @@ public final class YearPromisesTest {
     x.family(1, 40);
     due.is("all the same", x.pieceFor(1), 0);
     states(x, 0, 0, 0, 5, 40);
+  }
+
+  // the dish sits in YEAR 15 alone; SHE can go 6 PLACES then, and waits at 7
+  private static void theSixteenthYear() {
+    BridgeService x = quiet();
+    x.ends(16);
+    x.plate(1, 7, 2, 0);
+    x.family(1, 7);
+    Say.rules(x, "plate if year < 15 stand;");
+    due.promise(18, "widthFor, the sixteenth year");
+    due.is("6 places", x.widthFor(0), 4);
+    due.promise(19, "pieceFor, the sixteenth year");
+    due.is("where she waits", x.pieceFor(0), 7);
+    x.change(0, 2, 4);
+    due.promise(16, "on, the sixteenth year");
+    due.is("15 years", x.on(15), 0);
+    due.is("16 years", x.on(16), 13);
+    due.promise(17, "when, the sixteenth year");
+    due.is("sits", x.when(0), 15);
+    due.promise(20, "over, the sixteenth year");
+    due.is("goes on", x.over(13), 15);
+    x.ends(15);
+    due.is("15 years alone", x.over(8), NONE);
+    due.promise(18, "widthFor, 15 years alone");
+    due.is("all the same", x.widthFor(0), 0);
+    due.promise(19, "pieceFor, 15 years alone");
+    due.is("all the same", x.pieceFor(0), 0);
   }
 
   private static void over() {
